@@ -54,6 +54,14 @@ public final class ReclaimTest {
         lists("behind the second", x, "3 ", "1 ");
         Check.due("the evicted one", x.entry(0, 2, 1), 2);
         Check.due("evicted", x.count(2), 2);
+        // What comes back from ACTIVE is not seen, though it was since.
+        Pagewright y = withSpace(1, 2, 3, 4);
+        y.reclaim(1);
+        y.load(0, 0, 2);
+        Check.due("a page of ACTIVE that is seen", y.frame(2, 3), 1);
+        y.reclaim(1);
+        lists("behind two", y, "2 ", "3 ");
+        Check.due("whether it is seen in IDLE", y.frame(2, 3), 0);
     }
 
     private static void fewer() {
@@ -69,6 +77,7 @@ public final class ReclaimTest {
             x.read(0, i);
         }
         Check.due("refaults at first", x.count(3), 0);
+        x.write(0, 1, 0);
         // As in secondLooks: 0 is evicted, and 2 and 3 are in ACTIVE.
         x.reclaim(1);
         Check.due("the first one is not cached", x.frame(0, 0), 0);
@@ -76,6 +85,9 @@ public final class ReclaimTest {
         Check.due("refaults, 0 evicted since, 2 in ACTIVE", x.count(3), 1);
         lists("the refault is in ACTIVE", x, "1 ", "2 3 0 ");
         Check.due("values read", x.count(4), 5);
+        Check.due("values written for a clean page", x.count(5), 0);
+        x.reclaim(1);
+        Check.due("values written for a dirty page, though of the same value", x.count(5), 1);
     }
 
     private static void distance() {
