@@ -12,7 +12,7 @@ public final class Pagewright {
     private static final int HITS = 0, MISSES = 1, EVICTED = 2, REFAULTS = 3;
     private static final int DISK_READS = 4, DISK_WRITES = 5, COPIES = 6, KILLS = 7, COUNTED = 8;
 
-    /** Stands far above the turns that any loop under it needs: each turn evicts, kills, frees or goes on. */
+    /** Stands far above the turns that a loop with it needs, each of which evicts, kills, frees frames or goes on. */
     private static final int ENOUGH = 100000;
 
     private final Space[] spaces = new Space[SPACES];
@@ -440,7 +440,7 @@ public final class Pagewright {
         for (int i = first; i < first + BLOCK; i++) {
             Entry entry = space.entries[i];
             Page page = entry.page;
-            if (entry.file != NONE || page == null || page.kind != LOOSE || page.holders != 1 || page.merged) {
+            if (entry.file != NONE || page == null || !page.isMergeable() || page.holders != 1) {
                 return false;
             }
             if (i > first && !entry.continues(space.entries[i - 1])) {
@@ -803,12 +803,13 @@ public final class Pagewright {
 
     /** Tells whether the entry got another page. */
     private boolean look(Entry entry) {
-        if (!entry.canMerge()) {
+        Page own = entry.page;
+        if (own == null || !own.isMergeable()) {
             return false;
         }
-        Page twin = mergedTwin(entry.page);
+        Page twin = mergedTwin(own);
         if (twin == null) {
-            Entry other = lookedTwin(entry.page);
+            Entry other = lookedTwin(own);
             if (other == null || other.page == null) {
                 entry.looked = true;
                 return false;
@@ -834,8 +835,8 @@ public final class Pagewright {
     private Entry lookedTwin(Page like) {
         for (Space space : spaces) {
             for (Entry entry : space.entries) {
-                boolean isOne = entry.looked && entry.canMerge() && entry.page != null;
-                if (isOne && entry.page != like && entry.page.value == like.value) {
+                Page page = entry.looked ? entry.page : null;
+                if (page != null && page != like && page.isMergeable() && page.value == like.value) {
                     return entry;
                 }
             }
@@ -951,10 +952,6 @@ public final class Pagewright {
                     && shared == below.shared && grows == below.grows
                     && (file == NONE || index == below.index + 1);
         }
-
-        boolean canMerge() {
-            return page != null && page.kind == LOOSE && !page.merged;
-        }
     }
 
     private static final class Space {
@@ -1051,6 +1048,10 @@ public final class Pagewright {
 
         boolean isMember(int ofList, int ofGroup) {
             return kind != NOTHING && list == ofList && (ofGroup == NONE || group == ofGroup);
+        }
+
+        boolean isMergeable() {
+            return kind == LOOSE && !merged;
         }
 
         int number(int what) {

@@ -52,6 +52,17 @@ final class Check {
         refused(what, x, IllegalStateException.class, call);
     }
 
+    /** An object with the space 0, all its addresses mapped, and the values stored into the first ones in turn. */
+    static Pagewright withSpace(int... values) {
+        Pagewright x = new Pagewright();
+        x.space(0);
+        x.map(0, 0, 32, 3, -1, 0, false, false);
+        for (int a = 0; a < values.length; a++) {
+            x.store(0, 0, a, values[a]);
+        }
+        return x;
+    }
+
     /** All that an object answers when it is asked, in one text. */
     static String state(Pagewright x) {
         StringBuilder s = new StringBuilder();

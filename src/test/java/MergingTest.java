@@ -16,18 +16,8 @@ public final class MergingTest {
         Check.finish("MergingTest");
     }
 
-    private static Pagewright withSpace(int... values) {
-        Pagewright x = new Pagewright();
-        x.space(0);
-        x.map(0, 0, 32, 3, -1, 0, false, false);
-        for (int a = 0; a < values.length; a++) {
-            x.store(0, 0, a, values[a]);
-        }
-        return x;
-    }
-
     private static void joins() {
-        Pagewright x = withSpace(1, 2, 3, 4, 5, 6, 7, 8);
+        Pagewright x = Check.withSpace(1, 2, 3, 4, 5, 6, 7, 8);
         Check.due("join", x.join(0, 4), 1);
         Check.due("whether an address is in a block", x.entry(0, 7, 5), 1);
         Check.due("whether another is", x.entry(0, 3, 5), 0);
@@ -43,7 +33,7 @@ public final class MergingTest {
     }
 
     private static void noBlocks() {
-        Pagewright x = withSpace(1, 2, 3);
+        Pagewright x = Check.withSpace(1, 2, 3);
         Check.badState("join with one that is ABSENT", x, () -> x.join(0, 0));
         x.store(0, 0, 3, 4);
         x.protect(0, 3, 1, 1);
@@ -74,7 +64,7 @@ public final class MergingTest {
             x.store(0, 2, a, 1);
         }
         Check.badState("join with some that grow", x, () -> x.join(2, 0));
-        Pagewright y = withSpace(5, 5, 1, 2);
+        Pagewright y = Check.withSpace(5, 5, 1, 2);
         y.merge(0, true);
         y.scan(4);
         y.unmap(0, 1, 1);
@@ -87,7 +77,7 @@ public final class MergingTest {
     }
 
     private static void blocksEnd() {
-        Pagewright x = withSpace(1, 2, 3, 4);
+        Pagewright x = Check.withSpace(1, 2, 3, 4);
         x.join(0, 0);
         x.reclaim(1);
         Check.due("blocks behind an eviction", x.about(0, 4), 0);
@@ -113,12 +103,12 @@ public final class MergingTest {
         x.join(0, 0);
         x.end(0);
         Check.due("blocks of a dead one", x.about(0, 4), 0);
-        Pagewright y = withSpace(1, 2, 3, 4, 1);
+        Pagewright y = Check.withSpace(1, 2, 3, 4, 1);
         y.join(0, 0);
         y.merge(0, true);
         Check.due("scan", y.scan(5), 1);
         Check.due("blocks, as a page is merged", y.about(0, 4), 0);
-        Pagewright z = withSpace(9, 0, 0, 0, 9, 2, 3, 4);
+        Pagewright z = Check.withSpace(9, 0, 0, 0, 9, 2, 3, 4);
         z.join(0, 4);
         z.merge(0, true);
         z.scan(5);
@@ -126,7 +116,7 @@ public final class MergingTest {
     }
 
     private static void merges() {
-        Pagewright x = withSpace(5, 6, 5, 5, 6);
+        Pagewright x = Check.withSpace(5, 6, 5, 5, 6);
         Check.due("scan when no space is told", x.scan(192), 0);
         x.merge(0, true);
         Check.due("scan of the first two", x.scan(2), 0);
@@ -152,7 +142,7 @@ public final class MergingTest {
     }
 
     private static void firstSuch() {
-        Pagewright x = withSpace(1, 7, 7, 1);
+        Pagewright x = Check.withSpace(1, 7, 7, 1);
         x.merge(0, true);
         x.scan(1);
         x.store(0, 0, 0, 7);
@@ -165,7 +155,7 @@ public final class MergingTest {
 
     private static void stillLikeThat() {
         // The one that was looked at is OUT, and then has another page, which counts.
-        Pagewright x = withSpace(4, 0, 4, 4);
+        Pagewright x = Check.withSpace(4, 0, 4, 4);
         x.merge(0, true);
         x.scan(1);
         x.reclaim(1);
@@ -175,7 +165,7 @@ public final class MergingTest {
         Check.due("scan: the first such", x.scan(1), 1);
         Check.due("its page", x.entry(0, 3, 2), x.entry(0, 0, 2));
         // One that was unmapped, or moved, since then is another one.
-        Pagewright y = withSpace(4, 5, 0, 5, 4, 6, 6, 0);
+        Pagewright y = Check.withSpace(4, 5, 0, 5, 4, 6, 6, 0);
         y.merge(0, true);
         y.scan(3);
         y.unmap(0, 0, 1);
@@ -189,7 +179,7 @@ public final class MergingTest {
         y.move(0, 5, 1, 20);
         Check.due("scan of 6", y.scan(1), 0);
         // One that got another page as it was looked at is none, though it is like that again.
-        Pagewright z = withSpace(4, 4, 0, 8);
+        Pagewright z = Check.withSpace(4, 4, 0, 8);
         z.merge(0, true);
         Check.due("scan of 0 and 1", z.scan(2), 1);
         z.store(0, 0, 1, 8);
@@ -202,7 +192,7 @@ public final class MergingTest {
     }
 
     private static void rounds() {
-        Pagewright x = withSpace(4);
+        Pagewright x = Check.withSpace(4);
         x.store(0, 0, 31, 5);
         x.merge(0, true);
         Check.due("scan of one round", x.scan(32), 0);
@@ -212,7 +202,7 @@ public final class MergingTest {
         Check.due("scan up to its last", x.scan(31), 1);
         Check.due("the page", x.entry(0, 31, 2), 0);
         // From space to space, past those that are not told.
-        Pagewright y = withSpace(4);
+        Pagewright y = Check.withSpace(4);
         y.space(0);
         y.space(1);
         y.map(1, 0, 1, 3, -1, 0, false, false);
@@ -231,7 +221,7 @@ public final class MergingTest {
         Check.due("scan past a dead one", y.scan(192), 0);
         Check.due("who has the page", y.frame(0, 4), 2);
         // What is left off in a space that is told later goes on in the same round.
-        Pagewright z = withSpace(4);
+        Pagewright z = Check.withSpace(4);
         z.space(0);
         z.map(1, 0, 1, 3, -1, 0, false, false);
         z.store(0, 1, 0, 4);
@@ -242,7 +232,7 @@ public final class MergingTest {
     }
 
     private static void forkedPages() {
-        Pagewright x = withSpace(4);
+        Pagewright x = Check.withSpace(4);
         x.merge(0, true);
         x.fork(0);
         Check.due("scan: the same page is no other", x.scan(64), 0);
@@ -253,7 +243,7 @@ public final class MergingTest {
         Check.due("who has it", x.frame(0, 4), 3);
         Check.due("whether it is merged", x.frame(0, 6), 1);
         // The other way round, the two follow one after the other.
-        Pagewright y = withSpace(3, 4);
+        Pagewright y = Check.withSpace(3, 4);
         y.fork(0);
         y.store(0, 0, 0, 4);
         y.merge(0, true);
@@ -263,7 +253,7 @@ public final class MergingTest {
     }
 
     private static void whoIsMerged() {
-        Pagewright x = withSpace(4, 4);
+        Pagewright x = Check.withSpace(4, 4);
         x.merge(0, true);
         x.fork(0);
         x.merge(0, false);

@@ -19,16 +19,6 @@ public final class ReclaimTest {
         Check.finish("ReclaimTest");
     }
 
-    private static Pagewright withSpace(int... values) {
-        Pagewright x = new Pagewright();
-        x.space(0);
-        x.map(0, 0, 32, 3, -1, 0, false, false);
-        for (int a = 0; a < values.length; a++) {
-            x.store(0, 0, a, values[a]);
-        }
-        return x;
-    }
-
     private static void lists(String what, Pagewright x, String idle, String active) {
         StringBuilder s = new StringBuilder();
         for (int list = 0; list <= 1; list++) {
@@ -41,7 +31,7 @@ public final class ReclaimTest {
     }
 
     private static void secondLooks() {
-        Pagewright x = withSpace(1, 2, 3, 4);
+        Pagewright x = Check.withSpace(1, 2, 3, 4);
         lists("new pages", x, "0 1 2 3 ", "");
         // 0 and 1 go to ACTIVE; with 2 it has more, 0 comes back; 3 then goes, and 1 comes back; 0 is evicted.
         Check.due("reclaim", x.reclaim(1), 1);
@@ -55,7 +45,7 @@ public final class ReclaimTest {
         Check.due("the evicted one", x.entry(0, 2, 1), 2);
         Check.due("evicted", x.count(2), 2);
         // What comes back from ACTIVE is not seen, though it was since.
-        Pagewright y = withSpace(1, 2, 3, 4);
+        Pagewright y = Check.withSpace(1, 2, 3, 4);
         y.reclaim(1);
         y.load(0, 0, 2);
         Check.due("a page of ACTIVE that is seen", y.frame(2, 3), 1);
@@ -65,7 +55,7 @@ public final class ReclaimTest {
     }
 
     private static void fewer() {
-        Pagewright x = withSpace(1, 2);
+        Pagewright x = Check.withSpace(1, 2);
         Check.due("reclaim of more than there are", x.reclaim(24), 2);
         Check.due("reclaim of none", x.reclaim(1), 0);
         lists("nothing", x, "", "");
@@ -118,7 +108,7 @@ public final class ReclaimTest {
 
     private static void store() {
         // Eviction is in the order of the addresses, as withSpace sees each page once.
-        Pagewright x = withSpace(99, 100, 9999, 0);
+        Pagewright x = Check.withSpace(99, 100, 9999, 0);
         x.reclaim(4);
         Check.due("the store's use", x.count(8), 6);
         Check.due("places", x.count(9), 0);
@@ -127,7 +117,7 @@ public final class ReclaimTest {
         x.load(0, 0, 1);
         Check.due("the store's use without a middle one", x.count(8), 3);
         Check.due("the value", x.load(0, 0, 2), 9999);
-        Pagewright y = withSpace(100, 101, 102, 103, 104, 5);
+        Pagewright y = Check.withSpace(100, 101, 102, 103, 104, 5);
         y.reclaim(4);
         Check.due("a full store", y.count(8), 8);
         y.reclaim(1);
@@ -143,7 +133,7 @@ public final class ReclaimTest {
     }
 
     private static void places() {
-        Pagewright x = withSpace(10000, 1, 99999);
+        Pagewright x = Check.withSpace(10000, 1, 99999);
         x.reclaim(3);
         Check.due("a large one goes to a place at once", x.entry(0, 0, 4), 0);
         Check.due("a small one does not", x.entry(0, 1, 4), 10);
@@ -162,7 +152,7 @@ public final class ReclaimTest {
         for (int i = 0; i < 12; i++) {
             large[i] = 50000 + i;
         }
-        Pagewright x = withSpace(large);
+        Pagewright x = Check.withSpace(large);
         Check.due("reclaim as far as there are places", x.reclaim(24), 10);
         Check.due("places", x.count(9), 10);
         Check.due("reclaim then", x.reclaim(1), 0);
@@ -173,7 +163,7 @@ public final class ReclaimTest {
         x.read(0, 0);
         Check.due("reclaim of a cached one", x.reclaim(2), 1);
         // The store gives nothing up when no place is free.
-        Pagewright y = withSpace(50000, 50001, 50002, 50003, 50004, 50005, 50006, 50007, 50008, 50009,
+        Pagewright y = Check.withSpace(50000, 50001, 50002, 50003, 50004, 50005, 50006, 50007, 50008, 50009,
                 100, 101, 102, 103, 104);
         Check.due("reclaim till the store is full", y.reclaim(24), 14);
         Check.due("the store's use", y.count(8), 8);
@@ -306,7 +296,7 @@ public final class ReclaimTest {
     }
 
     private static void handling() {
-        Pagewright x = withSpace(1, 2, 3);
+        Pagewright x = Check.withSpace(1, 2, 3);
         x.load(1, 0, 0);
         x.unmap(0, 0, 2);
         Check.due("messages", x.count(10), 3);
