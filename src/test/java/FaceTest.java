@@ -99,6 +99,21 @@ public final class FaceTest {
     }
 
     private static void constants() throws Exception {
+        Check.terms("`NONE = -1`: None.");
+        Check.due("NONE", Pagewright.NONE, -1);
+        Check.terms("`NOT_MAPPED = -2, NO_RIGHT = -3, KILLED = -4, FULL = -5`");
+        Check.due("NOT_MAPPED", Pagewright.NOT_MAPPED, -2);
+        Check.due("NO_RIGHT", Pagewright.NO_RIGHT, -3);
+        Check.due("KILLED", Pagewright.KILLED, -4);
+        Check.due("FULL", Pagewright.FULL, -5);
+        Check.terms("`ABSENT = 0, PRESENT = 1, OUT = 2`: Entries.");
+        Check.due("ABSENT", Pagewright.ABSENT, 0);
+        Check.due("PRESENT", Pagewright.PRESENT, 1);
+        Check.due("OUT", Pagewright.OUT, 2);
+        Check.terms("`IDLE = 0, ACTIVE = 1`: Lists.");
+        Check.due("IDLE", Pagewright.IDLE, 0);
+        Check.due("ACTIVE", Pagewright.ACTIVE, 1);
+        Check.terms("The constants:");
         Set<String> got = new TreeSet<>();
         for (Field f : Pagewright.class.getDeclaredFields()) {
             int modifiers = f.getModifiers();

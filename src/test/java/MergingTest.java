@@ -21,7 +21,7 @@ public final class MergingTest {
         Check.due("join", x.join(0, 4), 1);
         Check.due("whether an address is in a block", x.entry(0, 7, 5), 1);
         Check.due("whether another is", x.entry(0, 3, 5), 0);
-        Check.badState("join of what is one", x, () -> x.join(0, 4));
+        Check.badState("join of what is one", x, on -> on.join(0, 4));
         Check.due("join of the next", x.join(0, 0), 2);
         Check.due("blocks", x.about(0, 4), 2);
         for (int a = 28; a < 32; a++) {
@@ -34,13 +34,13 @@ public final class MergingTest {
 
     private static void noBlocks() {
         Pagewright x = Check.withSpace(1, 2, 3);
-        Check.badState("join with one that is ABSENT", x, () -> x.join(0, 0));
+        Check.badState("join with one that is ABSENT", x, on -> on.join(0, 0));
         x.store(0, 0, 3, 4);
         x.protect(0, 3, 1, 1);
-        Check.badState("join with one of other rights", x, () -> x.join(0, 0));
+        Check.badState("join with one of other rights", x, on -> on.join(0, 0));
         x.protect(0, 3, 1, 3);
         x.fork(0);
-        Check.badState("join with pages that others have", x, () -> x.join(0, 0));
+        Check.badState("join with pages that others have", x, on -> on.join(0, 0));
         x.end(1);
         Check.due("join without these", x.join(0, 0), 1);
         x.space(0);
@@ -48,22 +48,22 @@ public final class MergingTest {
         for (int a = 0; a < 4; a++) {
             x.load(0, 2, a);
         }
-        Check.badState("join of a file's", x, () -> x.join(2, 0));
+        Check.badState("join of a file's", x, on -> on.join(2, 0));
         x.unmap(2, 0, 4);
         x.map(2, 0, 4, 3, 0, 0, false, false);
         for (int a = 0; a < 4; a++) {
             x.store(0, 2, a, 1);
         }
-        Check.badState("join of a private file's loose pages", x, () -> x.join(2, 0));
-        Check.badState("join of what is not mapped", x, () -> x.join(2, 4));
-        Check.badState("join in a dead space", x, () -> x.join(1, 0));
+        Check.badState("join of a private file's loose pages", x, on -> on.join(2, 0));
+        Check.badState("join of what is not mapped", x, on -> on.join(2, 4));
+        Check.badState("join in a dead space", x, on -> on.join(1, 0));
         x.unmap(2, 0, 4);
         x.map(2, 0, 2, 3, -1, 0, false, false);
         x.map(2, 2, 2, 3, -1, 0, false, true);
         for (int a = 0; a < 4; a++) {
             x.store(0, 2, a, 1);
         }
-        Check.badState("join with some that grow", x, () -> x.join(2, 0));
+        Check.badState("join with some that grow", x, on -> on.join(2, 0));
         Pagewright y = Check.withSpace(5, 5, 1, 2);
         y.merge(0, true);
         y.scan(4);
@@ -71,7 +71,7 @@ public final class MergingTest {
         y.map(0, 1, 1, 3, -1, 0, false, false);
         y.store(0, 0, 1, 6);
         Check.due("who has the page", y.frame(y.entry(0, 0, 2), 4), 1);
-        Check.badState("join with one that is merged", y, () -> y.join(0, 0));
+        Check.badState("join with one that is merged", y, on -> on.join(0, 0));
         y.store(0, 0, 0, 7);
         Check.due("join, as it is merged no more", y.join(0, 0), 1);
     }

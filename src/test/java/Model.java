@@ -1,5 +1,6 @@
 import java.util.ArrayDeque;
 import java.util.ArrayList;
+import java.util.Collections;
 import java.util.LinkedHashMap;
 import java.util.LinkedHashSet;
 import java.util.LinkedList;
@@ -734,68 +735,65 @@ final class Model {
 
     // ---- asking
 
-    /** The same text as Check.state makes of an object. */
-    String state() {
-        StringBuilder s = new StringBuilder();
+    /** The same answers in the same order as Check.state has of an object. */
+    int[] state() {
+        List<Integer> all = new ArrayList<>();
+        for (int count : counts) {
+            all.add(count);
+        }
         int taken = 0;
         for (Rec rec : places) {
             taken += rec != null ? 1 : 0;
         }
-        int[] more = {used(), taken, messages.get(0).size() + messages.get(1).size()};
-        for (int what = 0; what <= 10; what++) {
-            s.append(what).append(':').append(what < 8 ? counts[what] : more[what - 8]).append(' ');
-        }
+        all.addAll(List.of(used(), taken, messages.get(0).size() + messages.get(1).size()));
         for (LinkedList<Page> list : lists) {
-            s.append("list");
             for (int place = 0; place <= 24; place++) {
-                s.append(' ').append(place < list.size() ? list.get(place).frame : NONE);
+                all.add(place < list.size() ? list.get(place).frame : NONE);
             }
         }
         for (int f = 0; f < 24; f++) {
-            s.append(" frame").append(f);
-            frame(f, s);
+            all.addAll(frame(f));
         }
         for (int[] file : disk) {
             for (int value : file) {
-                s.append(' ').append(value);
+                all.add(value);
             }
         }
-        for (int n = 0; n < spaces.size(); n++) {
-            Space space = spaces.get(n);
-            s.append(" space").append(n).append(' ').append(space.lives ? 1 : 0).append(' ').append(regions(space));
-            s.append(' ').append(has(space, true)).append(' ').append(has(space, false));
-            s.append(' ').append(space.blocks.size()).append(' ').append(score(n));
+        for (int n = 0; n < 6; n++) {
+            boolean is = n < spaces.size();
+            all.addAll(is ? about(n) : Collections.nCopies(6, Check.NO_SPACE));
             for (int a = 0; a < 32; a++) {
-                s.append(" at").append(a);
-                address(space, a, s);
+                all.addAll(is ? address(spaces.get(n), a) : Collections.nCopies(6, Check.NO_SPACE));
             }
         }
-        return s.toString();
+        return all.stream().mapToInt(Integer::intValue).toArray();
     }
 
-    private void frame(int f, StringBuilder s) {
+    private List<Integer> about(int n) {
+        Space space = spaces.get(n);
+        return List.of(space.lives ? 1 : 0, regions(space), has(space, true), has(space, false), space.blocks.size(),
+                score(n));
+    }
+
+    private List<Integer> frame(int f) {
         Page p = frames[f];
         if (p == null) {
-            s.append(isTranslated(f) ? " 3" : " 0").append(" -1 -1 -1 -1 -1 -1 -1");
-            return;
+            return List.of(isTranslated(f) ? 3 : 0, NONE, NONE, NONE, NONE, NONE, NONE, NONE);
         }
-        s.append(p.cached ? " 2 " : " 1 ").append(p.value).append(' ').append(lists.get(1).contains(p) ? 1 : 0);
-        s.append(p.seen ? " 1 " : " 0 ").append(holders(p)).append(' ').append(p.group);
-        s.append(p.merged || p.dirty ? " 1 " : " 0 ").append(p.cached ? p.file * 10 + p.index : NONE);
+        return List.of(p.cached ? 2 : 1, p.value, lists.get(1).contains(p) ? 1 : 0, p.seen ? 1 : 0, holders(p), p.group,
+                p.merged || p.dirty ? 1 : 0, p.cached ? p.file * 10 + p.index : NONE);
     }
 
-    private void address(Space space, int a, StringBuilder s) {
+    private List<Integer> address(Space space, int a) {
         Addr d = space.map.get(a);
         if (d == null) {
-            s.append(" 0 -1 -1 -1 -1 0");
-            return;
+            return List.of(0, NONE, NONE, NONE, NONE, 0);
         }
-        s.append(' ').append(d.rights).append(d.page != null ? " 1 " : d.rec != null ? " 2 " : " 0 ");
-        s.append(d.page == null ? NONE : d.page.frame).append(' ').append(d.page == null ? NONE : d.writable ? 1 : 0);
         int place = d.rec == null ? NONE : 10;
         for (int i = 0; i < 10; i++) {
             place = d.rec != null && places[i] == d.rec ? i : place;
         }
-        s.append(' ').append(place).append(space.blocks.contains(a / 4) ? " 1" : " 0");
+        return List.of(d.rights, d.page != null ? 1 : d.rec != null ? 2 : 0, d.page == null ? NONE : d.page.frame,
+                d.page == null ? NONE : d.writable ? 1 : 0, place, space.blocks.contains(a / 4) ? 1 : 0);
     }
 }

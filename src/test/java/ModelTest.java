@@ -1,12 +1,26 @@
 import java.util.ArrayDeque;
+import java.util.ArrayList;
+import java.util.List;
 import java.util.Random;
 
-/** Long runs of calls that the class and the Model must answer alike, from seeds that are the same each time. */
+/**
+ * Long runs of calls that the class and the Model must answer alike, from seeds that are the same each time. Every
+ * second run has all 512 calls; the others are shorter, and behind their last call all is asked.
+ */
 public final class ModelTest {
-    private static final int RUNS = 3000;
-    private static final int CALLS = 512;
+    private static final int RUNS = 4000;
+    private static final int SHORTER = 384;
+
+    private interface Call {
+        int on(Pagewright x);
+    }
+
+    private interface Answer {
+        int get();
+    }
 
     private final Random random;
+    private final int length;
     private final Pagewright x = new Pagewright();
     private final Model m = new Model();
     private final int values;
@@ -15,14 +29,16 @@ public final class ModelTest {
     private final boolean limited;
     private final int ending;
     private final ArrayDeque<Runnable> script = new ArrayDeque<>();
+    private final List<Call> calls = new ArrayList<>();
     private int lastSpace;
     private int lastAddress;
     private String call;
-    private long got;
-    private long want;
+    private int got;
+    private int want;
 
     private ModelTest(long seed) {
         random = new Random(seed);
+        length = seed % 2 == 0 ? Check.CALLS : 1 + random.nextInt(SHORTER);
         values = random.nextInt(4);
         spread = 4 + random.nextInt(29);
         groups = 1 + random.nextInt(3);
@@ -34,11 +50,12 @@ public final class ModelTest {
         long[] reached = new long[8];
         for (int seed = 0; seed < RUNS; seed++) {
             ModelTest test = new ModelTest(seed);
-            if (!test.run(seed)) {
-                System.exit(1);
+            if (!test.run()) {
+                System.out.println("seed " + seed + " call " + test.calls.size());
+                Check.finish("ModelTest");
             }
             for (int i = 0; i < 8; i++) {
-                reached[i] += test.x.count(i);
+                reached[i] += test.m.counts[i];
             }
         }
         for (int i = 0; i < 8; i++) {
@@ -47,25 +64,33 @@ public final class ModelTest {
         Check.finish("ModelTest");
     }
 
-    private boolean run(int seed) {
-        for (int i = 0; i < CALLS; i++) {
+    /** Tells whether all was as due. */
+    private boolean run() {
+        while (calls.size() < length) {
             one();
             if (got != want) {
-                System.out.println("seed " + seed + " call " + i);
                 Check.due(call, got, want);
                 return false;
             }
-            if (i % 16 == 0 || i == CALLS - 1) {
-                String is = Check.state(x);
-                String due = m.state();
-                if (!is.equals(due)) {
-                    System.out.println("seed " + seed + " call " + i);
-                    Check.due("the state behind " + call, is, due);
-                    return false;
-                }
-            }
         }
-        return true;
+        return length == Check.CALLS
+                || Check.same("behind " + call, Check.state(this::again, length), m.state());
+    }
+
+    /** A new object that had all these calls. */
+    private Pagewright again() {
+        Pagewright other = new Pagewright();
+        for (Call each : calls) {
+            guard(() -> each.on(other));
+        }
+        return other;
+    }
+
+    private void both(String text, Call onClass, Answer onModel) {
+        call = text;
+        calls.add(onClass);
+        got = guard(() -> onClass.on(x));
+        want = guard(onModel);
     }
 
     private int value() {
@@ -96,9 +121,7 @@ public final class ModelTest {
         int pick = random.nextInt(100);
         if (spaces == 0 || pick < 2) {
             int group = random.nextInt(groups);
-            call = "space(" + group + ")";
-            got = guard(() -> x.space(group));
-            want = guard(() -> m.space(group));
+            both("space(" + group + ")", x -> x.space(group), () -> m.space(group));
             return;
         }
         int space = random.nextInt(spaces);
@@ -118,14 +141,13 @@ public final class ModelTest {
     private void planBlock(int space) {
         int first = 4 * random.nextInt((spread + 3) / 4);
         script.add(() -> {
-            call = "unmap(" + space + ", " + first + ", 4)";
-            got = guard(() -> x.unmap(space, first, 4));
-            want = guard(() -> m.unmap(space, first, 4));
+            both("unmap(" + space + ", " + first + ", 4)",
+                    x -> x.unmap(space, first, 4), () -> m.unmap(space, first, 4));
         });
         script.add(() -> {
-            call = "map(" + space + ", " + first + ", 4, 3, -1, 0, false, false)";
-            got = guard(() -> x.map(space, first, 4, 3, -1, 0, false, false));
-            want = guard(() -> m.map(space, first, 4, 3, -1, 0, false, false));
+            both("map(" + space + ", " + first + ", 4, 3, -1, 0, false, false)",
+                    x -> x.map(space, first, 4, 3, -1, 0, false, false),
+                    () -> m.map(space, first, 4, 3, -1, 0, false, false));
         });
         for (int i = 0; i < 4; i++) {
             int a = first + i;
@@ -135,9 +157,7 @@ public final class ModelTest {
     }
 
     private void join(int space, int a) {
-        call = "join(" + space + ", " + a + ")";
-        got = guard(() -> x.join(space, a));
-        want = guard(() -> m.join(space, a));
+        both("join(" + space + ", " + a + ")", x -> x.join(space, a), () -> m.join(space, a));
     }
 
     private void access(int space, int a) {
@@ -145,9 +165,8 @@ public final class ModelTest {
         lastAddress = a;
         int p = random.nextInt(2);
         int v = random.nextInt(3) == 0 ? -1 : value();
-        call = (v < 0 ? "load(" : "store(") + p + ", " + space + ", " + a + ", " + v + ")";
-        got = guard(() -> v < 0 ? x.load(p, space, a) : x.store(p, space, a, v));
-        want = guard(() -> m.access(p, space, a, v));
+        both((v < 0 ? "load(" : "store(") + p + ", " + space + ", " + a + ", " + v + ")",
+                x -> v < 0 ? x.load(p, space, a) : x.store(p, space, a, v), () -> m.access(p, space, a, v));
     }
 
     private void mapping(int space, int pick) {
@@ -159,33 +178,26 @@ public final class ModelTest {
             int file = random.nextInt(3) == 0 && index + n <= 8 ? random.nextInt(3) : -1;
             boolean shared = random.nextBoolean();
             boolean grows = random.nextInt(3) == 0;
-            call = "map(" + space + ", " + from + ", " + n + ", " + rights + ", " + file + ", " + index + ", " + shared
-                    + ", " + grows + ")";
-            got = guard(() -> x.map(space, from, n, rights, file, index, shared, grows));
-            want = guard(() -> m.map(space, from, n, rights, file, index, shared, grows));
+            both("map(" + space + ", " + from + ", " + n + ", " + rights + ", " + file + ", " + index + ", " + shared
+                    + ", " + grows + ")",
+                    x -> x.map(space, from, n, rights, file, index, shared, grows),
+                    () -> m.map(space, from, n, rights, file, index, shared, grows));
         } else if (pick < 66) {
-            call = "unmap(" + space + ", " + from + ", " + n + ")";
-            got = guard(() -> x.unmap(space, from, n));
-            want = guard(() -> m.unmap(space, from, n));
+            both("unmap(" + space + ", " + from + ", " + n + ")",
+                    x -> x.unmap(space, from, n), () -> m.unmap(space, from, n));
         } else if (pick < 69) {
             int rights = random.nextInt(2) == 0 ? 3 : 1 + random.nextInt(3);
-            call = "protect(" + space + ", " + from + ", " + n + ", " + rights + ")";
-            got = guard(() -> x.protect(space, from, n, rights));
-            want = guard(() -> m.protect(space, from, n, rights));
+            both("protect(" + space + ", " + from + ", " + n + ", " + rights + ")",
+                    x -> x.protect(space, from, n, rights), () -> m.protect(space, from, n, rights));
         } else if (pick < 73) {
             int some = Math.min(n, 1 + random.nextInt(3));
             int to = random.nextInt(33 - some);
-            call = "move(" + space + ", " + from + ", " + some + ", " + to + ")";
-            got = guard(() -> x.move(space, from, some, to));
-            want = guard(() -> m.move(space, from, some, to));
+            both("move(" + space + ", " + from + ", " + some + ", " + to + ")",
+                    x -> x.move(space, from, some, to), () -> m.move(space, from, some, to));
         } else if (pick < 75 || random.nextInt(40) > ending) {
-            call = "fork(" + space + ")";
-            got = guard(() -> x.fork(space));
-            want = guard(() -> m.fork(space));
+            both("fork(" + space + ")", x -> x.fork(space), () -> m.fork(space));
         } else {
-            call = "end(" + space + ")";
-            got = guard(() -> x.end(space));
-            want = guard(() -> m.end(space));
+            both("end(" + space + ")", x -> x.end(space), () -> m.end(space));
         }
     }
 
@@ -196,60 +208,45 @@ public final class ModelTest {
         int n = 1 + random.nextInt(random.nextInt(4) == 0 ? 24 : 4);
         if (pick < 80) {
             int w = random.nextBoolean() ? v : -1;
-            call = "file(" + file + ", " + index + ", " + w + ")";
-            got = guard(() -> w < 0 ? x.read(file, index) : x.write(file, index, w));
-            want = guard(() -> m.file(file, index, w));
+            both("file(" + file + ", " + index + ", " + w + ")",
+                    x -> w < 0 ? x.read(file, index) : x.write(file, index, w), () -> m.file(file, index, w));
         } else if (pick < 82) {
-            call = "sync(" + file + ")";
-            got = x.sync(file);
-            want = m.sync(file);
+            both("sync(" + file + ")", x -> x.sync(file), () -> m.sync(file));
         } else if (pick < 85) {
-            call = "reclaim(" + n + ")";
-            got = x.reclaim(n);
-            want = m.reclaim(n);
+            both("reclaim(" + n + ")", x -> x.reclaim(n), () -> m.reclaim(n));
         } else if (pick < 87) {
             int p = random.nextInt(2);
-            call = "handle(" + p + ")";
-            got = x.handle(p);
-            want = m.handle(p);
+            both("handle(" + p + ")", x -> x.handle(p), () -> m.handle(p));
         } else if (pick < 90) {
             join(space, 4 * random.nextInt((spread + 3) / 4));
         } else if (pick < 92) {
             boolean is = random.nextInt(3) > 0;
-            call = "merge(" + space + ", " + is + ")";
-            x.merge(space, is);
-            m.merge(space, is);
-            got = 0;
-            want = 0;
+            both("merge(" + space + ", " + is + ")", x -> {
+                x.merge(space, is);
+                return 0;
+            }, () -> {
+                m.merge(space, is);
+                return 0;
+            });
         } else if (pick < 97) {
             int addresses = 1 + random.nextInt(random.nextInt(3) == 0 ? 192 : 32);
-            call = "scan(" + addresses + ")";
-            got = x.scan(addresses);
-            want = m.scan(addresses);
+            both("scan(" + addresses + ")", x -> x.scan(addresses), () -> m.scan(addresses));
         } else if (pick < 98 || !limited) {
             int by = random.nextInt(101) - 50;
-            call = "adjust(" + space + ", " + by + ")";
-            got = x.adjust(space, by);
-            want = m.adjust(space, by);
+            both("adjust(" + space + ", " + by + ")", x -> x.adjust(space, by), () -> m.adjust(space, by));
         } else {
             int group = random.nextInt(3);
             int pages = random.nextInt(3) == 0 ? -1 : 1 + random.nextInt(random.nextInt(3) == 0 ? 24 : 6);
-            call = "limit(" + group + ", " + pages + ")";
-            got = x.limit(group, pages);
-            want = m.limit(group, pages);
+            both("limit(" + group + ", " + pages + ")", x -> x.limit(group, pages), () -> m.limit(group, pages));
         }
     }
 
-    private interface Answer {
-        int get();
-    }
-
     /** What the call answers, or a number that no call answers, if it throws IllegalStateException. */
-    private static long guard(Answer answer) {
+    private static int guard(Answer answer) {
         try {
             return answer.get();
         } catch (IllegalStateException e) {
-            return Long.MIN_VALUE;
+            return Check.THROWN;
         }
     }
 }

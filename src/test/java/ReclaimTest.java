@@ -218,7 +218,7 @@ public final class ReclaimTest {
         Check.due("whether the third one lives", x.about(2, 0), 1);
         Check.due("spaces killed", x.count(7), 1);
         Check.due("pages evicted", x.count(2), 10);
-        Check.badState("to load from it", x, () -> x.load(0, 1, 0));
+        Check.badState("to load from it", x, on -> on.load(0, 1, 0));
     }
 
     private static void killingTheNeedy() {

@@ -29,7 +29,7 @@ public final class SpacesTest {
         Check.due("list(IDLE, 0) of a new object", x.list(0, 0), -1);
         Check.due("list(ACTIVE, 0) of a new object", x.list(1, 0), -1);
         Check.due("disk(2, 7) of a new object", x.disk(2, 7), 0);
-        Check.noSpace("about(0, 0) of a new object", x, () -> x.about(0, 0));
+        Check.noSpace("about(0, 0) of a new object", x, on -> on.about(0, 0));
         // No group has a limit: one of them can have all frames.
         x.space(1);
         x.map(0, 0, 32, 3, -1, 0, false, false);
@@ -47,9 +47,9 @@ public final class SpacesTest {
         Check.due("about(5, 0) of a new space", x.about(5, 0), 1);
         Check.due("about(5, 1) of a new space", x.about(5, 1), 0);
         Check.due("about(5, 5) of a new space", x.about(5, 5), 0);
-        Check.badState("a seventh space", x, () -> x.space(0));
+        Check.badState("a seventh space", x, on -> on.space(0));
         x.end(2);
-        Check.badState("a seventh space, though one is dead", x, () -> x.space(0));
+        Check.badState("a seventh space, though one is dead", x, on -> on.space(0));
         x.map(4, 0, 1, 3, -1, 0, false, false);
         x.store(0, 4, 0, 1);
         Check.due("the group of a page of space 4", x.frame(0, 5), 1);
@@ -136,9 +136,9 @@ public final class SpacesTest {
         Check.due("the value there", x.load(0, 0, 30), 9);
         Check.due("misses, for the translation was another", x.count(1), 3);
         Check.due("where it was", x.entry(0, 5, 0), 0);
-        Check.badState("move of what is not mapped", x, () -> x.move(0, 4, 2, 10));
-        Check.badState("move onto itself", x, () -> x.move(0, 30, 2, 29));
-        Check.badState("move onto another", x, () -> x.move(0, 4, 1, 7));
+        Check.badState("move of what is not mapped", x, on -> on.move(0, 4, 2, 10));
+        Check.badState("move onto itself", x, on -> on.move(0, 30, 2, 29));
+        Check.badState("move onto another", x, on -> on.move(0, 4, 1, 7));
         Check.due("move back", x.move(0, 30, 2, 5), 1);
         Check.due("a file's index goes along", x.load(1, 0, 7), 0);
         x.write(1, 5, 77);
@@ -192,7 +192,7 @@ public final class SpacesTest {
         for (int i = 2; i < 6; i++) {
             Check.due("one more fork", y.fork(i % 2), i);
         }
-        Check.badState("a fork as the seventh", y, () -> y.fork(0));
+        Check.badState("a fork as the seventh", y, on -> on.fork(0));
     }
 
     private static void ends() {
@@ -210,7 +210,7 @@ public final class SpacesTest {
         Check.due("spaces killed", x.count(7), 0);
         Check.due("the store's use", x.count(8), 0);
         Check.due("messages, one for each that was in the cache", x.count(10), 2);
-        Check.badState("end of a dead one", x, () -> x.end(0));
+        Check.badState("end of a dead one", x, on -> on.end(0));
     }
 
     private static void adjusts() {
