@@ -848,6 +848,8 @@ public final class Pagewright {
 
     /** An address of a space, mapped or not, with its entry. */
     private static final class Entry {
+        static final int EVERY_PROCESSOR = (1 << PROCESSORS) - 1;
+
         /** Which four addresses it is one of, counted through all spaces. */
         final int block;
         boolean mapped;
@@ -862,8 +864,7 @@ public final class Pagewright {
         Record record;
         /** Whether it was looked at in this round of scanning, and got no other page by that. */
         boolean looked;
-        /** The processors that have its translation, a bit each, and those of them that have a message for it. */
-        int cachedBy;
+        /** A bit for each processor: if that has its translation, it has a message for it. */
         int told;
 
         Entry(int block) {
@@ -872,7 +873,7 @@ public final class Pagewright {
 
         void tellProcessors() {
             if (state == PRESENT) {
-                told |= cachedBy;
+                told = EVERY_PROCESSOR;
             }
         }
 
@@ -1258,7 +1259,6 @@ public final class Pagewright {
             here.entry = entry;
             here.frame = page.frame;
             here.writable = entry.writable;
-            entry.cachedBy |= bit;
             entry.told &= ~bit;
         }
 
@@ -1277,10 +1277,6 @@ public final class Pagewright {
             }
             size--;
             all[size] = leaving;
-            if (leaving.entry != null) {
-                leaving.entry.cachedBy &= ~bit;
-                leaving.entry.told &= ~bit;
-            }
         }
     }
 }

@@ -107,6 +107,8 @@ public final class AskEdgesTest {
                 Check.due("entry(0, " + each[0] + ", " + what + ")", x.entry(0, each[0], what), each[1 + what]);
             }
         }
+        x.load(0, 0, out);
+        Check.due("the place of one that was OUT, and is PRESENT", x.entry(0, out, 4), -1);
         x.end(0);
         for (int what = 0; what <= 5; what++) {
             Check.due("of a dead one, " + what, x.entry(0, 0, what), what == 0 || what == 5 ? 0 : -1);

@@ -96,6 +96,14 @@ public final class ReclaimEdgesTest {
         z.load(0, 0, 0);
         z.load(0, 0, 3);
         Check.due("hits of the two others", z.count(0), 2);
+        // Of two that left, one comes again, and gets a message.
+        Pagewright again = Check.withSpace(1, 2, 3, 4);
+        again.protect(0, 0, 2, 3);
+        Check.due("handle of two", again.handle(0), 2);
+        again.store(0, 0, 1, 5);
+        again.protect(0, 0, 2, 3);
+        Check.due("messages that wait", again.count(10), 1);
+        Check.due("handle of one that came again", again.handle(0), 1);
         Check.promise(18, "Throws `IndexOutOfBoundsException` if there is no such processor");
         for (int processor : new int[] {-1, 2, LOW, HIGH}) {
             Check.noSpace("handle of " + processor, BUSY, q -> q.handle(processor));

@@ -116,6 +116,17 @@ public final class TermsAccessTest {
         x.map(0, 0, 32, 3, NONE, 0, false, false);
         Check.due("the first one", x.entry(0, 0, 1), Pagewright.ABSENT);
         Check.due("the last one", x.entry(0, 31, 1), Pagewright.ABSENT);
+        // Whatever the address had when it was mapped before does not matter.
+        Pagewright again = Check.withSpace(5, 6);
+        again.reclaim(1);
+        again.unmap(0, 0, 2);
+        again.map(0, 0, 2, 3, 1, 0, false, false);
+        Check.due("one that was OUT", again.entry(0, 0, 1), Pagewright.ABSENT);
+        Check.due("one that was PRESENT", again.entry(0, 1, 1), Pagewright.ABSENT);
+        Check.due("to store where it was OUT", again.store(0, 0, 0, 7), 0);
+        Check.due("to store where it was writable", again.store(0, 0, 1, 8), 0);
+        Check.due("copies, as these are private now", again.count(6), 2);
+        Check.due("the file's value", again.read(1, 1), 0);
         Check.terms("PRESENT: it has a page, writable or not, or OUT: it has a record.");
         x.store(0, 0, 0, 5);
         Check.due("PRESENT", x.entry(0, 0, 1), Pagewright.PRESENT);
@@ -158,6 +169,39 @@ public final class TermsAccessTest {
         Check.due("hits of 1, as a fifth one is of 0", x.count(0), 9);
         x.load(0, 0, 0);
         Check.due("hits of 0, whose first one left", x.count(0), 9);
+        // Behind two that left without others to come, four have room again.
+        Pagewright left = Check.withSpace(1, 2);
+        left.protect(0, 0, 2, 3);
+        left.handle(0);
+        for (int a = 0; a < 4; a++) {
+            left.load(0, 0, a);
+        }
+        for (int a = 0; a < 4; a++) {
+            left.load(0, 0, a);
+        }
+        Check.due("hits of four behind two that left", left.count(0), 4);
+        // Likewise when the first one of three left.
+        Pagewright first = Check.withSpace(1, 2, 3);
+        first.protect(0, 0, 1, 3);
+        for (int a = 3; a < 5; a++) {
+            first.load(0, 0, a);
+        }
+        for (int a = 1; a < 5; a++) {
+            first.load(0, 0, a);
+        }
+        Check.due("hits of four behind one that left", first.count(0), 4);
+        // Likewise when the first one of two left, then each of three.
+        Pagewright more = Check.withSpace(1, 2);
+        more.protect(0, 0, 1, 3);
+        more.handle(0);
+        for (int a = 4; a < 7; a++) {
+            more.load(0, 0, a);
+        }
+        for (int a = 4; a < 7; a++) {
+            more.load(0, 0, a);
+        }
+        more.load(0, 0, 1);
+        Check.due("hits of one that stayed, and of three behind it", more.count(0), 4);
         // The same address of another space has a translation of its own.
         Pagewright y = Check.withSpace(5);
         y.space(0);
@@ -221,6 +265,12 @@ public final class TermsAccessTest {
         x.map(0, 7, 1, 3, NONE, 0, false, false);
         Check.due("two above what is mapped", x.load(0, 0, 9), 0);
         Check.due("then just above it", x.load(0, 0, 8), Pagewright.NOT_MAPPED);
+        Pagewright low = one();
+        low.map(0, 0, 1, 3, NONE, 0, false, false);
+        low.map(0, 2, 1, 3, NONE, 0, false, true);
+        Check.due("just above the address 0", low.load(0, 0, 1), Pagewright.NOT_MAPPED);
+        low.unmap(0, 0, 1);
+        Check.due("when that is not mapped", low.load(0, 0, 1), 0);
         Check.terms("or there is none below");
         x.map(0, 1, 1, 3, NONE, 0, false, true);
         Check.due("the address 0", x.load(0, 0, 0), 0);
@@ -336,6 +386,13 @@ public final class TermsAccessTest {
         x.map(0, 0, 1, 3, NONE, 0, false, false);
         Check.due("load in the same frame, where 9 was", x.load(0, 0, 0), 0);
         Check.due("the frame", x.entry(0, 0, 2), 0);
+        Pagewright merged = Check.withSpace(5, 5);
+        merged.merge(0, true);
+        merged.scan(2);
+        merged.unmap(0, 0, 2);
+        merged.load(0, 0, 2);
+        Check.due("the frame of one that was merged", merged.entry(0, 2, 2), 0);
+        Check.due("whether the one that came there is merged", merged.frame(0, 6), 0);
         Check.terms("OUT: a new loose page with the value of the record comes, and the record is left.");
         Pagewright y = Check.withSpace(500);
         y.reclaim(1);
@@ -374,6 +431,14 @@ public final class TermsAccessTest {
         Check.terms("and that page is not seen by that.");
         Check.due("whether the one that was read is seen", x.frame(3, 3), 0);
         Check.due("whether the loose one is seen", x.frame(4, 3), 1);
+        Pagewright seen = one();
+        seen.map(0, 0, 1, 3, NONE, 0, false, false);
+        seen.map(0, 1, 1, 3, 1, 0, false, false);
+        seen.load(0, 0, 0);
+        seen.unmap(0, 0, 1);
+        seen.store(0, 0, 1, 5);
+        Check.due("the frame of one that was seen", seen.frame(0, 7), 10);
+        Check.due("whether the one that came there is seen", seen.frame(0, 3), 0);
     }
 
     private static void presentNotWritable() {

@@ -172,6 +172,36 @@ public final class TermsFramesTest {
             Check.due("refaults, as " + since + " were evicted since", y.count(3), since <= 1 ? 1 : 0);
             Check.due("the list of its page", y.frame(0, 2), since <= 1 ? ACTIVE : IDLE);
         }
+        // Behind four of eight there are two in each list; a refault makes one more in ACTIVE.
+        Pagewright eight = new Pagewright();
+        for (int i = 0; i < 8; i++) {
+            eight.read(2, i);
+        }
+        eight.reclaim(4);
+        eight.read(2, 1);
+        Check.due("refaults, when 2 were evicted since, and 2 are in ACTIVE", eight.count(3), 1);
+        eight.read(2, 0);
+        Check.due("refaults, when 3 were, and 3 are in ACTIVE, 2 in IDLE", eight.count(3), 2);
+        Pagewright idle = new Pagewright();
+        idle.read(0, 0);
+        idle.read(0, 1);
+        idle.reclaim(2);
+        idle.read(1, 0);
+        idle.read(1, 1);
+        idle.read(0, 0);
+        Check.due("refaults, when 1 was, and none is in ACTIVE, 2 in IDLE", idle.count(3), 0);
+        for (int file = 0; file <= 2; file++) {
+            for (int index = 0; index <= 7; index++) {
+                Pagewright each = new Pagewright();
+                each.read(file, index);
+                each.reclaim(1);
+                each.read((file + 1) % 3, index);
+                each.read(file, (index + 1) % 8);
+                Check.due("refaults of others than file " + file + ", index " + index, each.count(3), 0);
+                each.read(file, index);
+                Check.due("refaults of file " + file + ", index " + index, each.count(3), 1);
+            }
+        }
         Pagewright none = new Pagewright();
         none.read(0, 0);
         none.reclaim(1);
@@ -421,7 +451,7 @@ public final class TermsFramesTest {
 
     private static void limitsThatDoNotCount() {
         Check.terms("If nobody of the group is left to be killed, its limit does not count for this page");
-        // Pages of the group 0 are a fork's... of the group 1, which got them by a scan: they stay without its spaces.
+        // A page of the group 0 that a space of the group 1 got by a scan stays when the group 0 has no space any more.
         Pagewright x = new Pagewright();
         x.space(0);
         x.space(1);
@@ -543,6 +573,18 @@ public final class TermsFramesTest {
         z.limit(1, 22);
         Check.due("to store into a private one", z.store(0, 1, 30, 1), Pagewright.KILLED);
         Check.due("the file's value", z.read(2, 5), 9);
+        // Or the frame is for the cached page, which is not read then.
+        for (int access = 0; access <= 2; access++) {
+            Pagewright file = placesTaken(0, 1);
+            file.unmap(1, 30, 1);
+            file.map(1, 30, 1, 3, 2, 5, access == 1, false);
+            large(file, 1, 0, 24);
+            int told = access == 0 ? file.load(0, 1, 30) : file.store(0, 1, 30, 1);
+            Check.due("to load, or to store into a shared or a private one", told, Pagewright.KILLED);
+            Check.due("values read", file.count(4), 0);
+            Check.due("pages", file.limit(1, NONE), 0);
+            Check.due("spaces killed", file.count(7), 1);
+        }
         // Who is not the one that needs it is killed, and the access goes on.
         Pagewright w = placesTaken(0, 1);
         large(w, 1, 0, 24);
@@ -588,6 +630,13 @@ public final class TermsFramesTest {
         Check.due("the first one of ACTIVE", z.entry(0, 4, 1), OUT);
         Check.list("IDLE, to which two came, and one went", z, IDLE, 5);
         Check.list("ACTIVE", z, ACTIVE, 6, 7);
+        Pagewright w = Check.withSpace(1, 2, 3, 4, 5, 6);
+        w.reclaim(1);
+        Check.list("ACTIVE, three", w, ACTIVE, 3, 4, 5);
+        w.unmap(0, 1, 2);
+        w.reclaim(1);
+        Check.list("IDLE, to which two came, as one was fewer than two", w, IDLE, 4);
+        Check.list("ACTIVE", w, ACTIVE, 5);
     }
 
     private static void evictionsOfGroups() {
@@ -798,6 +847,14 @@ public final class TermsFramesTest {
         due("the next ones", inStore(x, 0, 0, 7), 10, 0, 1, 2, 10, 10, 10);
         putOut(x, 0, 7, 100);
         Check.due("the first one at last", x.entry(0, 0, 4), 3);
+        // Two that were in it longest are gone, and one came since: what is gone is not in it.
+        Pagewright z = spaces(0);
+        putOut(z, 0, 0, many(8, 1));
+        z.unmap(0, 0, 2);
+        putOut(z, 0, 8, 100);
+        putOut(z, 0, 9, 1);
+        due("the third one", inStore(z, 0, 2, 8), 0, 10, 10, 10, 10, 10, 10, 10);
+        Check.due("the store", z.count(8), 8);
         Check.terms("and one of 10000 or more at once");
         Pagewright y = spaces(0);
         putOut(y, 0, 0, 100, 100, 100, 100);

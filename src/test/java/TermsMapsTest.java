@@ -114,8 +114,10 @@ public final class TermsMapsTest {
         Check.due("move", x.move(0, 4, 4, 20), 3);
         Check.due("rights of the first one", x.entry(0, 20, 0), 2);
         Check.due("rights of the second one", x.entry(0, 21, 0), 1);
+        Check.due("its entry", x.entry(0, 20, 1), Pagewright.PRESENT);
         Check.due("its page", x.entry(0, 20, 2), 0);
         Check.due("writable", x.entry(0, 20, 3), 1);
+        Check.due("the entry of the third one", x.entry(0, 22, 1), Pagewright.OUT);
         Check.due("who has it", x.frame(0, 4), 1);
         Check.due("the record of the third one", x.entry(0, 22, 4), 10);
         Check.due("its value", x.load(0, 0, 22), 500);
