@@ -526,6 +526,25 @@ public final class TermsAccessTest {
         Check.due("spaces killed", z.count(7), 1);
         Check.due("places", z.count(9), 9);
         Check.due("pages evicted", z.count(2), 10);
+        // The page that is copied is the entry's as well until then: it counts for the score, and keeps its frame.
+        for (int by = 0; by <= 1; by++) {
+            Pagewright s = one();
+            s.space(1);
+            s.map(0, 0, 32, 3, NONE, 0, false, false);
+            s.map(1, 0, 32, 3, NONE, 0, false, false);
+            for (int a = 0; a < 10; a++) {
+                s.store(0, 0, a, 50000);
+            }
+            s.reclaim(10);
+            for (int a = 0; a < 24; a++) {
+                s.store(0, 1, a, 60000);
+            }
+            s.fork(1);
+            s.adjust(1, -by);
+            Check.due("to store for a copy, adjusted by " + -by, s.store(0, 1, 0, 5), Pagewright.KILLED);
+            Check.due("spaces killed", s.count(7), 1 + by);
+            Check.due("whether the fork lives", s.about(2, 0), 1 - by);
+        }
     }
 
     private static void presentThen() {

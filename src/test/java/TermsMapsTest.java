@@ -715,6 +715,14 @@ public final class TermsMapsTest {
         z.scan(32);
         z.merge(1, true);
         Check.due("the first one of the other space", z.scan(1), 1);
+        // Also of one that there was not by then.
+        Pagewright made = toMerge(5);
+        made.scan(32);
+        made.space(0);
+        made.map(1, 0, 32, 3, NONE, 0, false, false);
+        made.store(0, 1, 31, 5);
+        made.merge(1, true);
+        Check.due("the other space", made.scan(32), 1);
         // Nor does it end within a space, however many scans there are.
         Pagewright w = toMerge(5);
         w.store(0, 0, 31, 5);
