@@ -51,11 +51,15 @@ public final class FaceTest {
         "\\+\\s*\"", "\"\\s*\\+", "[^\\x00-\\x7f]", "\\bwhile\\s*\\(true\\)", "for\\s*\\(;;\\)", "\\bprotected\\b",
     };
 
+    private static final Path DOCUMENT = Path.of("../shared/DOC.md");
+    private static final Pattern CALL = Pattern.compile("(?m)^ +public (\\w+ \\w+)(\\(.*?\\)) throws (.*);$");
+
     private FaceTest() {
     }
 
     public static void main(String[] args) throws Exception {
         face();
+        document();
         constants();
         parts();
         text();
@@ -96,6 +100,24 @@ public final class FaceTest {
             s.append(' ').append(e.getName());
         }
         return s.toString();
+    }
+
+    /** What the list above has must be what the document has. */
+    private static void document() throws Exception {
+        if (!Files.exists(DOCUMENT)) {
+            System.out.println("FaceTest: there is no " + DOCUMENT + " to look into");
+            return;
+        }
+        Matcher call = CALL.matcher(Files.readString(DOCUMENT));
+        Set<String> got = new TreeSet<>();
+        while (call.find()) {
+            StringBuilder s = new StringBuilder(call.group(1)).append(call.group(2).replaceAll(" \\w+(,|\\)) ?", "$1"));
+            for (String exception : call.group(3).split(", ")) {
+                s.append(" java.lang.").append(exception);
+            }
+            got.add(s.toString());
+        }
+        Check.due("the methods of the document", got.toString(), new TreeSet<>(Set.of(METHODS)).toString());
     }
 
     private static void constants() throws Exception {
